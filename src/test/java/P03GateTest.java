@@ -8,6 +8,7 @@ public final class P03GateTest {
         windowsThatMeetAreTwo(c);
         onlyTheFirstOfAQueue(c);
         otherRanksAndPortsAreOpen(c);
+        allWindowsAreLookedAt(c);
         c.end();
     }
 
@@ -95,5 +96,16 @@ public final class P03GateTest {
         c.departure(x, 1, 1, 3, 0, 7);
         c.departure(x, 2, 2, 3, 7, 14);
         c.departure(x, 3, 1, 2, 500, 507);
+    }
+
+    private static void allWindowsAreLookedAt(Check c) {
+        EthernetGates x = twoPorts(67);
+        for (int i = 1; i <= 7; i++) {
+            x.gate(2, 0, 20 * i, 20 * i + 10);
+        }
+        x.gate(2, 0, 500, 511);
+        x.frame(1, 1, 0, 64);
+        c.due("run(1000)", x.run(1000), 1);
+        c.departure(x, 0, 1, 2, 500, 511);
     }
 }

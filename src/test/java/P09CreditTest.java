@@ -112,16 +112,17 @@ public final class P09CreditTest {
     private static void shapedAnewOrNoMore(Check c) {
         EthernetGates x = twoPorts(10);
         x.credit(2, 0, 1, 1000);
-        x.frame(1, 1, 0, 64);
-        x.frame(1, 1, 0, 64);
-        x.frame(1, 1, 0, 64);
+        for (int i = 0; i < 4; i++) {
+            x.frame(1, 1, 0, 64);
+        }
         c.due("one, then none for long", x.run(1000), 1);
         x.credit(2, 0, 1, 999);
         c.due("CREDIT 0 anew", x.run(500), 1);
         c.departure(x, 1, 2, 2, 1000, 1068);
         c.due("credit(2, 0, 0, 1)", x.credit(2, 0, 0, 1), 1);
-        c.due("SHAPED no more", x.run(500), 1);
+        c.due("SHAPED no more", x.run(500), 2);
         c.departure(x, 2, 3, 2, 1500, 1568);
+        c.departure(x, 3, 4, 2, 1568, 1636);
     }
 
     private static void moreThanTheSpeed(Check c) {
