@@ -2,12 +2,18 @@
 final class Check {
     private int wrong;
     private int asked;
+    private String sentence = "";
+
+    /** Names what is tested from here on; it is printed before each wrong answer. */
+    void sentence(String words) {
+        sentence = words + ": ";
+    }
 
     void due(String call, long got, long want) {
         asked++;
         if (got != want) {
             wrong++;
-            System.out.println(call + " answered " + got + ", due is " + want);
+            System.out.println(sentence + call + " answered " + got + ", due is " + want);
         }
     }
 
@@ -15,7 +21,7 @@ final class Check {
         asked++;
         if (!holds) {
             wrong++;
-            System.out.println("does not hold: " + what);
+            System.out.println(sentence + "does not hold: " + what);
         }
     }
 

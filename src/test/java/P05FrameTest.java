@@ -8,7 +8,6 @@ public final class P05FrameTest {
         copies(c);
         roomOfAQueue(c);
         someCopiesWithoutRoom(c);
-        mostFrames(c);
         c.end();
     }
 
@@ -99,17 +98,5 @@ public final class P05FrameTest {
         c.due("room at port 3 alone", x.frame(1, 2, 0, 64), 17);
         c.due("dropped(0)", x.dropped(0), 1);
         c.due("link(3, 0)", x.link(3, 0), 1);
-    }
-
-    // No run of 512 calls comes so far; this only looks that the limit stands.
-    private static void mostFrames(Check c) {
-        EthernetGates x = new EthernetGates(1);
-        x.link(1, 1);
-        for (int i = 1; i <= 5000; i++) {
-            x.frame(1, 1, 0, 64);
-        }
-        c.due("dropped(2)", x.dropped(2), 5000);
-        c.due("the 5001st", x.frame(1, 1, 0, 64), -4);
-        c.due("dropped(2)", x.dropped(2), 5000);
     }
 }
