@@ -20,6 +20,7 @@ public final class LimitTest {
         fraction(c);
         offsetBy100AtMost(c);
         offsetDownwards(c);
+        offsetAboveTheCycle(c);
         delays(c);
         reasons(c);
         lostLink(c);
@@ -292,6 +293,17 @@ public final class LimitTest {
         x.clock(2, 101).is(100);
         x.clock(2, 99).is(99);
         x.clock(2, 0).is(0);
+    }
+
+    private static void offsetAboveTheCycle(Check c) {
+        c.sentence("an OFFSET goes on above the CYCLE");
+        Gates x = new Gates(c, 2);
+        for (int i = 1; i <= 12; i++) {
+            x.clock(2, 1000000).is(100 * i);
+        }
+        x.cycle(30).is(1);
+        x.clock(2, 1000000).is(1300);
+        x.clock(1, 50).is(50);
     }
 
     private static void delays(Check c) {

@@ -6,6 +6,7 @@ public final class P02LinkTest {
         speedWhileSending(c);
         lostFrames(c);
         speedOfWaitingFrames(c);
+        onlyFramesAreLost(c);
         c.end();
     }
 
@@ -71,5 +72,25 @@ public final class P02LinkTest {
         x.link(2, 673);
         c.due("run(2)", x.run(2), 1);
         c.departure(x, 0, 1, 2, 0, 1);
+    }
+
+    // The WINDOWS, the OFFSET, the addresses and the RATES are no frames.
+    private static void onlyFramesAreLost(Check c) {
+        EthernetGates x = new EthernetGates(3);
+        x.link(1, 672);
+        x.link(2, 672);
+        x.link(3, 672);
+        x.gate(2, 0, 50, 51);
+        x.clock(2, 10);
+        x.learn(1, 2, 0);
+        x.filter(8, 1);
+        c.due("link(2, 0)", x.link(2, 0), 0);
+        c.due("link(2, 672)", x.link(2, 672), 0);
+        c.due("to port 2 alone", x.frame(1, 1, 0, 64), 1);
+        c.due("over its RATE", x.frame(1, 1, 0, 64), 0);
+        c.due("run(100)", x.run(100), 1);
+        c.departure(x, 0, 1, 2, 40, 41);
+        c.due("gate(2, 0, 0, 1)", x.gate(2, 0, 0, 1), 2);
+        c.due("clock(2, 10)", x.clock(2, 10), 10);
     }
 }

@@ -126,6 +126,8 @@ final class Refused {
         see(seen, x.frame(1, LEARNED_ADDRESS, 1, 64));
         see(seen, x.run(11));
         see(seen, x.learn(LEARNED_ADDRESS, 1, 3010));
+        see(seen, x.cycle(LAST_WINDOW_END - 1));
+        see(seen, x.cycle(LAST_WINDOW_END));
         lookAtDepartures(x, seen);
         for (int port = 1; port <= PORTS; port++) {
             see(seen, x.link(port, 0));
@@ -153,9 +155,7 @@ final class Refused {
         see(seen, x.learn(FIXED_ADDRESS, SENDING, -1));
         see(seen, x.learn(3, NO_LINK, -1));
         see(seen, x.learn(5, 1, 0));
-        see(seen, x.cycle(LAST_WINDOW_END - 1));
         see(seen, x.gate(1, 0, 0, CYCLE + 1));
-        see(seen, x.gate(1, 0, 0, CYCLE));
         see(seen, x.frame(1, LEARNED_ADDRESS, RATED_RANK, 64));
         see(seen, x.frame(1, LEARNED_ADDRESS, RATED_RANK, 64));
         see(seen, x.filter(RATED_STREAM, 4));
@@ -168,7 +168,7 @@ final class Refused {
         }
         for (int rank = 0; rank < 8; rank++) {
             for (int port = 1; port <= PORTS; port++) {
-                see(seen, x.gate(port, rank, 0, CYCLE));
+                see(seen, x.gate(port, rank, 0, LAST_WINDOW_END));
             }
         }
     }

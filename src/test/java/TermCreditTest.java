@@ -17,6 +17,7 @@ public final class TermCreditTest {
         toZeroAtMost(c);
         toZeroAtMostInOneTick(c);
         otherwiseItIsZero(c);
+        zeroStaysZero(c);
         keptIfNoTickIsBetween(c);
         zeroAfterALostLink(c);
         belowZeroAfterALostLink(c);
@@ -24,6 +25,8 @@ public final class TermCreditTest {
         shapedAgainAfterNoMore(c);
         shapedWithCreditZero(c);
         otherRanksAndPorts(c);
+        firstAndLastRankOfFirstAndLastPort(c);
+        leastSpeed(c);
         leastAndMostFraction(c);
         c.end();
     }
@@ -175,18 +178,19 @@ public final class TermCreditTest {
         begins(x, 0, 136);
     }
 
+    // 204 below 0 after a frame: 30 times 7 bring it back, but 29 would if it had kept 1.
     private static void toZeroAtMost(Check c) {
         c.sentence("but to 0 at most");
         Gates x = ofSpeedTen(c);
-        x.credit(2, 3, 5, 1).is(1);
+        x.credit(2, 3, 7, 1).is(1);
         frames(x, 3, 1);
         x.run(500);
         frames(x, 3, 2);
         x.run(500).is(2);
-        begins(x, 0, 500, 636);
+        begins(x, 0, 500, 500 + 68 + 30);
     }
 
-    // 204 below 0 after 68 ticks; 29 times 7 is 203, and the thirtieth tick would bring it to 6.
+    // 29 times 7 is 203, and the thirtieth tick would bring it to 6.
     private static void toZeroAtMostInOneTick(Check c) {
         c.sentence("but to 0 at most, in the tick that reaches it");
         Gates x = ofSpeedTen(c);
@@ -198,17 +202,27 @@ public final class TermCreditTest {
         begins(x, 0, 98, 98 + 68 + 30);
     }
 
-    // Another rank's 136 ticks save 680; after one frame of its own 340 are left, which the empty QUEUE takes.
+    // Another rank's 136 ticks save 952; after one frame of its own 748 are left, which one tick takes.
     private static void otherwiseItIsZero(Check c) {
         c.sentence("otherwise it is 0");
         Gates x = ofSpeedTen(c);
-        x.credit(2, 3, 5, 1).is(1);
+        x.credit(2, 3, 7, 1).is(1);
         frames(x, 4, 2);
         frames(x, 3, 1);
         x.run(205).is(3);
         frames(x, 3, 2);
         x.run(1000).is(2);
-        begins(x, 0, 68, 136, 205, 341);
+        begins(x, 0, 68, 136, 205, 205 + 68 + 30);
+    }
+
+    private static void zeroStaysZero(Check c) {
+        c.sentence("otherwise it is 0: before its first frame");
+        Gates x = ofSpeedTen(c);
+        x.credit(2, 3, 7, 1).is(1);
+        x.run(500);
+        frames(x, 3, 2);
+        x.run(500).is(2);
+        begins(x, 500, 500 + 68 + 30);
     }
 
     // The QUEUE gets frames before a tick finds it empty: the 340 that were left are still there.
@@ -322,6 +336,35 @@ public final class TermCreditTest {
             x.departed(2 * i + 1, byThree[i], 3, 68 * i, 68 * i + 68);
         }
         x.departed(6, byThree[3], 3, 204, 272);
+    }
+
+    private static void firstAndLastRankOfFirstAndLastPort(Check c) {
+        int[] ports = {1, 16};
+        for (int port : ports) {
+            for (int rank = 0; rank < 8; rank += 7) {
+                c.sentence("each CREDIT, by its rank's port: rank " + rank + " of port " + port);
+                Gates x = new Gates(c, 16);
+                x.link(5, 10);
+                x.link(port, 10);
+                x.credit(port, rank, 5, 1).is(1);
+                x.frame(5, 1, rank, 64);
+                x.frame(5, 1, rank, 64);
+                x.run(1000).is(2);
+                x.departed(0, 1, port, 0, 68);
+                x.departed(1, 2, port, 136, 204);
+            }
+        }
+    }
+
+    // 672 ticks at a speed of 1 take 336.
+    private static void leastSpeed(Check c) {
+        c.sentence("down by speed less up / down at a speed of 1");
+        Gates x = Gates.linked(c, 2, 1);
+        x.credit(2, 3, 1, 2).is(1);
+        frames(x, 3, 2);
+        x.run(2000).is(1);
+        x.run(100).is(1);
+        x.departed(1, 2, 2, 1344, 2016);
     }
 
     private static void leastAndMostFraction(Check c) {

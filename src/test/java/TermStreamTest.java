@@ -13,6 +13,7 @@ public final class TermStreamTest {
         rateBelowWhatWasTaken(c);
         rateAboveWhatWasTaken(c);
         droppedAtOnce(c);
+        droppedByTheRateFirst(c);
         droppedAreNotTaken(c);
         firstAndLastStream(c);
         neighboursOfAStream(c);
@@ -164,6 +165,27 @@ public final class TermStreamTest {
             x.frame(1, 2, 0, 64).is(number);
         }
         x.frame(1, 1, 0, 64).is(0);
+        x.drops(0, 3, 0, 0);
+    }
+
+    private static void droppedByTheRateFirst(Check c) {
+        c.sentence("others are dropped at once: before it is looked where they go");
+        Gates x = Gates.linked(c, 3, 1);
+        x.link(3, 0);
+        x.learn(1, 1, -1);
+        x.learn(2, 3, -1);
+        x.learn(4, 2, -1);
+        x.filter(8, 0);
+        x.filter(16, 0);
+        x.filter(32, 16);
+        x.frame(1, 1, 0, 64).is(0);
+        x.drops(0, 1, 0, 0);
+        x.frame(1, 2, 0, 64).is(0);
+        x.drops(0, 2, 0, 0);
+        for (int number = 3; number <= 18; number++) {
+            x.frame(1, 4, 0, 64).is(number);
+        }
+        x.frame(1, 4, 0, 64).is(0);
         x.drops(0, 3, 0, 0);
     }
 

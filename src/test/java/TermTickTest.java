@@ -9,6 +9,7 @@ public final class TermTickTest {
         leftByPorts(c);
         leftByTicksBeforePorts(c);
         eachPortByItself(c);
+        firstAndLastPort(c);
         onlyWithALink(c);
         notWhileSending(c);
         ranksFromSevenDown(c);
@@ -129,6 +130,22 @@ public final class TermTickTest {
         }
         for (int i = 16; i < 30; i++) {
             x.departed(i, 2, i - 14, 1, 2);
+        }
+    }
+
+    // Each sends alone, so that nothing else has a port looked at in each tick.
+    private static void firstAndLastPort(Check c) {
+        int[] ports = {1, 16};
+        for (int port : ports) {
+            c.sentence("each port: port " + port + " alone");
+            Gates x = new Gates(c, 16);
+            x.link(5, 100);
+            x.link(port, 100);
+            x.frame(5, 1, 0, 64);
+            x.frame(5, 1, 0, 64);
+            x.run(100).is(2);
+            x.departed(0, 1, port, 0, 7);
+            x.departed(1, 2, port, 7, 14);
         }
     }
 
