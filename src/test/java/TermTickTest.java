@@ -10,6 +10,8 @@ public final class TermTickTest {
         leftByTicksBeforePorts(c);
         eachPortByItself(c);
         firstAndLastPort(c);
+        everyPortWaits(c);
+        oneWaitsWhileTheOtherSends(c);
         onlyWithALink(c);
         notWhileSending(c);
         ranksFromSevenDown(c);
@@ -147,6 +149,30 @@ public final class TermTickTest {
             x.departed(0, 1, port, 0, 7);
             x.departed(1, 2, port, 7, 14);
         }
+    }
+
+    private static void everyPortWaits(Check c) {
+        c.sentence("each port that is not sending: each tick, also if all ports have a frame that waits");
+        Gates x = Gates.linked(c, 2, 672);
+        x.gate(1, 0, 13, 14);
+        x.gate(2, 0, 10, 11);
+        x.frame(2, 1, 0, 64);
+        x.frame(1, 1, 0, 64);
+        x.run(100).is(2);
+        x.departed(0, 2, 2, 10, 11);
+        x.departed(1, 1, 1, 13, 14);
+    }
+
+    private static void oneWaitsWhileTheOtherSends(Check c) {
+        c.sentence("each port that is not sending: each tick, also while all other ones are sending");
+        Gates x = Gates.linked(c, 2, 672);
+        x.link(1, 10);
+        x.gate(2, 0, 10, 11);
+        x.frame(2, 1, 0, 64);
+        x.frame(1, 1, 0, 64);
+        x.run(100).is(2);
+        x.departed(0, 2, 2, 10, 11);
+        x.departed(1, 1, 1, 0, 68);
     }
 
     private static void onlyWithALink(Check c) {
